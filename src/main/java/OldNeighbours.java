@@ -39,8 +39,8 @@ public final class OldNeighbours {
     private final Reader reader = new Reader();
     private final Nearness nearness = new Nearness();
     private final Builder builder = new Builder();
-    private final Parting parting = new Parting();
-    private final Layings layings = new Layings();
+    private final Parting parter = new Parting();
+    private final Layings trials = new Layings();
     private final Sequence sequence = new Sequence();
     private final Wall lessened = new Wall();
 
@@ -285,7 +285,7 @@ public final class OldNeighbours {
         }
         wall.copy(builder.fresh);
         int good = nearness.bad <= world.bear ? 1 : 0;
-        world.history.record(wall, nearness.bad, nearness.kept, good);
+        world.history.keepYear(wall, nearness.bad, nearness.kept, good);
         world.meet(wall);
         world.year++;
         return good;
@@ -358,9 +358,9 @@ public final class OldNeighbours {
             return NONE;
         }
         if (c == NONE) {
-            return parting.mostCouples(world.forms[shape]);
+            return parter.mostCouples(world.forms[shape]);
         }
-        return parting.couplesSet(world.forms[shape]) >>> c & 1;
+        return parter.couplesSet(world.forms[shape]) >>> c & 1;
     }
 
     public int layings(int a, int shape, int what) {
@@ -376,14 +376,14 @@ public final class OldNeighbours {
         if (!asksBrick && !isOf(what, 3)) {
             return NONE;
         }
-        layings.tryAll(world, old, world.forms[shape]);
+        trials.tryAll(world, old, world.forms[shape]);
         if (asksBrick) {
-            return layings.best[what - 10];
+            return trials.best[what - 10];
         }
         if (what == 0) {
-            return layings.fewestBad;
+            return trials.fewestBad;
         }
-        return what == 1 ? layings.mostKept : layings.good;
+        return what == 1 ? trials.mostKept : trials.good;
     }
 
     public int order(int a, int b, int what) {
@@ -391,7 +391,7 @@ public final class OldNeighbours {
             return NONE;
         }
         nearness.learn(world.walls[a], world);
-        sequence.build(world.walls[b], nearness.oldBeside);
+        sequence.build(world.walls[b], nearness);
         if (what == 0) {
             return sequence.starts;
         }
@@ -608,11 +608,12 @@ public final class OldNeighbours {
          */
         private static int mostReplaced(long filled, int bricks) {
             int best = 0;
+            int most = 0;
             long replaced = 0;
             for (int i = 0; i < 1 << bricks; i++) {
-                boolean all = (filled & ~around(filled & ~replaced)) == 0;
-                if (all && Integer.bitCount(i) > Integer.bitCount(best)) {
+                if (Integer.bitCount(i) > most && (filled & ~around(filled & ~replaced)) == 0) {
                     best = i;
+                    most = Integer.bitCount(i);
                 }
                 replaced = replaced - filled & filled;
             }
@@ -859,7 +860,7 @@ public final class OldNeighbours {
             System.arraycopy(other.lefts, 0, lefts, 0, MOST * BRICKS);
         }
 
-        private void record(Wall wall, int howManyBad, int howManyKept, int isGood) {
+        private void keepYear(Wall wall, int howManyBad, int howManyKept, int isGood) {
             if (years >= MOST) {
                 return;
             }
@@ -1324,48 +1325,47 @@ public final class OldNeighbours {
         private int laidBricks;
         private int laidCells;
 
-        private void build(Wall wall, int[] oldBeside) {
+        private void build(Wall wall, Nearness old) {
             laid = 0;
             starts = 0;
             laidBricks = 0;
             laidCells = 0;
             int all = wall.bricksIn();
-            for (int i = 0; i < all && laid < BRICKS; i++) {
-                int cell = nextOf(wall, oldBeside);
+            for (int i = 0; i < all; i++) {
+                int cell = nextOf(wall, old, false);
                 if (cell == NONE) {
                     starts++;
-                    cell = nextOf(wall, null);
+                    cell = nextOf(wall, old, true);
                 }
-                int brick = wall.brickIn(cell);
-                if (brick == NONE) {
-                    return;
-                }
-                bricks[laid] = brick;
-                laid++;
-                laidBricks |= 1 << brick;
-                laidCells |= 1 << cell;
+                add(wall.brickIn(cell), cell);
             }
         }
 
-        /** Without the old ones (null) a brick needs nobody: it is a start. */
-        private int nextOf(Wall wall, int[] oldBeside) {
+        private int nextOf(Wall wall, Nearness old, boolean asStart) {
             for (int i = 0; i < wall.cells; i++) {
                 int brick = wall.bricks[i];
-                if (!isOf(brick, BRICKS) || (laidCells >>> i & 1) != 0 || !rests(wall, wall.cellBeside(i, Wall.BELOW))) {
+                if (!isOf(brick, BRICKS) || (laidCells >>> i & 1) != 0 || !rests(wall, i)) {
                     continue;
                 }
-                if (oldBeside == null) {
-                    return i;
-                }
-                if ((wall.besideOf(i) & laidBricks & oldBeside[brick]) != 0) {
+                if (asStart || (wall.besideOf(i) & laidBricks & old.oldBeside[brick]) != 0) {
                     return i;
                 }
             }
             return NONE;
         }
 
-        private boolean rests(Wall wall, int below) {
+        private boolean rests(Wall wall, int cell) {
+            int below = wall.cellBeside(cell, Wall.BELOW);
             return wall.brickIn(below) == NONE || (laidCells >>> below & 1) != 0;
+        }
+
+        private void add(int brick, int cell) {
+            if (isOf(brick, BRICKS) && laid < BRICKS) {
+                bricks[laid] = brick;
+                laid++;
+                laidBricks |= 1 << brick;
+                laidCells |= 1 << cell;
+            }
         }
     }
 
@@ -1515,7 +1515,6 @@ public final class OldNeighbours {
         private static final int PILE = 258;
         private static final int HOLE = 259;
         private static final int FIRST_WAY = 260;
-        private static final int LAST_WAY = 266;
         private static final int WHEN = 267;
         private static final int OR = 268;
         private static final int AND = 269;
