@@ -186,7 +186,15 @@ public final class PromiseTest {
         t.faulty(0, "pile 0 3 6;", 2, 9);
         t.faulty(0, "hole 0 8;", 2, 7);
         t.faulty(0, "cells 0 0;", 1, 0);
-        t.faulty(0, "Cell 0 0;", 1, 0);
+        for (String word : new String[] {"Cell", "cella", "cellz", "cellA", "cellZ", "cellcell"}) {
+            t.faulty(0, word + " 0 0;", 1, 0);
+        }
+        for (String sign : new String[] {"@", "[", "`", "{", "/", ":", "_"}) {
+            t.faulty(0, "cell" + sign + " 0 0;", 1, 4);
+        }
+        t.faulty(0, ";".repeat(400), 1, 0);
+        t.faulty(0, "cell 0 0;" + " ".repeat(391 - 1) + "=", 1, 399);
+        t.faulty(0, "cell 0 0" + " ".repeat(392), 1, 400);
         t.faulty(0, ";", 1, 0);
         t.faulty(0, "same;", 1, 0);
         t.faulty(0, "cell\t0 0;", 1, 4);
@@ -204,6 +212,8 @@ public final class PromiseTest {
         Talk t = new Talk("promise 5, rules");
         t.told(6, "same;shift 9999;back;snake;pairs;mend;mix;", 7);
         t.told(6, "same when year+cells*bad/3-kept<met and not(1=2 or 3>0004);", 1);
+        t.told(6, "mix when 1=" + "1+".repeat(193) + "1;", 1);
+        t.faulty(6, "mix when 1=" + "1+".repeat(194) + "1", 1, 400);
         t.faulty(6, "shift;", 1, 5);
         t.faulty(6, "shift 12345;", 1, 6);
         t.faulty(6, "same 3;", 1, 5);
@@ -403,6 +413,11 @@ public final class PromiseTest {
         t.bricks(3, 1, 0, 1, 7);
         t.x.set(1, 0);
         goodness(t, 2, 3, 128, 1, 1, 0);
+        // Brick 0 has its own mark alone.
+        t.bricks(2, 1, 1, 0, 4);
+        t.bricks(3, 1, 1, 2, 4);
+        t.x.set(14, 2);
+        goodness(t, 2, 3, 1 << 1 | 1 << 2 | 1 << 4, 3, 0, 0);
         // A brick with nobody beside it is bad even from the same wall.
         t.bricks(4, 1, 0, NONE, 2);
         goodness(t, 4, 4, 5, 2, 0, 0);
@@ -584,7 +599,8 @@ public final class PromiseTest {
     private static void promise17values() {
         String[] so = {"year=0", "cells=3", "bad=0", "kept=2", "met=0", "2+3*4=14", "8-3-2=3", "7/2*2=6", "1<2", "2>1",
             "1=1 or 1=2 and 1=2", "1=2 and 1=2 or 1=1", "not 1=2", "not not 1=1", "(1=1)", "(1=2 or 1=1) and 1=1",
-            "9999*9999*22/1000=0-2095*1000-407", "9999*9999*9999*9999>0-1", "0-1<0", "0003=3", "6/4=1", "2*3/4=1"};
+            "9999*9999*22/1000=0-2095*1000-407", "9999*9999*9999*9999>0-1", "0-1<0", "0003=3", "6/4=1", "2*3/4=1",
+            "7/1=7"};
         String[] not = {"year=1", "1<1", "1>1", "2<1", "not 1=1", "not 1=2 and 1=2", "1=2 or 1=2", "1=1 and 1=2",
             "(1=1 or 1=1) and 1=2", "not(1=1 or 1=2)", "0-1>0", "9999*9999*22>0"};
         for (String condition : so) {
@@ -763,6 +779,7 @@ public final class PromiseTest {
         all(t, 1, 0, 1, 1, 0, 5, 22, 23);
         t.bricks(2, 2, 6, 5, 4, 3, 2, 1, 0);
         all(t, 2, 2, 0, 6, 128, 0, 1, 2, 3, 4, 5, 6);
+        t.due("cell 7 of 7", NONE, t.x.layings(2, 2, 17));
         t.x.wall(3, 3);
         t.x.fill(3, 0);
         t.due("8 bricks", NONE, t.x.layings(3, 3, 0));
