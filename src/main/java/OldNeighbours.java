@@ -217,7 +217,7 @@ public final class OldNeighbours {
             case 2:
                 return nearness.kept;
             default:
-                return nearness.bad <= world.bear ? 1 : 0;
+                return isBorne() ? 1 : 0;
         }
     }
 
@@ -228,6 +228,11 @@ public final class OldNeighbours {
 
     private boolean isGood(Wall old, Wall fresh) {
         compare(old, fresh);
+        return isBorne();
+    }
+
+    /** Of the two walls that were compared last. */
+    private boolean isBorne() {
         return nearness.bad <= world.bear;
     }
 
@@ -284,7 +289,7 @@ public final class OldNeighbours {
             compare(wall, builder.fresh);
         }
         wall.copy(builder.fresh);
-        int good = nearness.bad <= world.bear ? 1 : 0;
+        int good = isBorne() ? 1 : 0;
         world.history.keepYear(wall, nearness.bad, nearness.kept, good);
         world.meet(wall);
         world.year++;
@@ -1373,7 +1378,7 @@ public final class OldNeighbours {
     private static final class Rule {
         private static final int MOST_LINES = 16;
         private static final int VALUES = 5;
-        /** Each of the 8 that can be open leaves two behind, and one line of signs three. */
+        /** Two wait for an or and an and, in and around each of the 8 that can be open; four in a comparison. */
         private static final int STACK = 32;
 
         private int lines;
