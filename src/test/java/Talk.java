@@ -1,3 +1,6 @@
+import java.util.function.BooleanSupplier;
+import java.util.function.IntSupplier;
+
 /** An object of the class, with texts told as texts, and a count of answers that are not due. */
 final class Talk {
     final OldNeighbours x = new OldNeighbours();
@@ -22,12 +25,30 @@ final class Talk {
         }
     }
 
+    static void fail(String what) {
+        checks++;
+        wrong++;
+        System.out.println(what);
+    }
+
+    /** The call is refused by that answer, and nothing that can be asked for is otherwise then. */
+    void refused(String call, int want, IntSupplier asked) {
+        String before = Sight.of(x);
+        due(call, want, asked.getAsInt());
+        due(call + " changes something", before.equals(Sight.of(x)) ? 0 : 1, 0);
+    }
+
+    void refused(String call, BooleanSupplier asked) {
+        refused(call, 0, () -> asked.getAsBoolean() ? 1 : 0);
+    }
+
     void due(String call, boolean want, boolean got) {
         due(call, want ? 1 : 0, got ? 1 : 0);
     }
 
-    /** Feeds the text alone, at most 400 signs. */
+    /** The tape has the text alone, at most 400 signs. */
     void feed(String text) {
+        x.end(0);
         StringBuilder padded = new StringBuilder(text);
         while (padded.length() % 20 != 0) {
             padded.append('#');
