@@ -101,6 +101,29 @@ final class ImageEdges {
         t.due("the same years", true, first.equals(Sight.of(t.x)));
     }
 
+    private static void yearsThatWereGoneBackFromLeaveNothing() {
+        Talk t = Edge.of(Edge.TERMS, TERM);
+        t.told(0, "row 0 0 3;", 3);
+        t.x.image(true);
+        t.bricks(0, 0, 10, 11, 12);
+        t.x.years(0, 0, 5);
+        t.due("always", 2, t.x.met(2));
+        t.x.image(false);
+        t.due("met", 0, t.x.met(0));
+        t.due("always", 0, t.x.met(2));
+        t.due("years", 0, t.x.met(5));
+        t.due("red", NONE, t.x.red(11, 1));
+        t.bricks(0, 0, 0, 1, 2);
+        t.x.years(0, 0, 5);
+        t.due("couples", 2, t.x.history(0, 3));
+        t.due("met", 2, t.x.met(0));
+        t.due("always", 2, t.x.met(2));
+        t.due("first", NONE, t.x.two(10, 11, 0));
+        t.due("apart", 5, t.x.two(10, 11, 1));
+        t.due("red", NONE, t.x.red(11, 1));
+        t.due("red", 0, t.x.red(11, 0));
+    }
+
     private static void theTapeIsNotOfIt() {
         Talk t = Edge.of(Edge.TERMS, TERM);
         t.feed("cell 1 1;");

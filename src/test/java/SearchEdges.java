@@ -94,6 +94,8 @@ final class SearchEdges {
         Talk t = Edge.of(Edge.TERMS, MOST_COUPLES);
         mostCouples(t, "cell 0 0;", 0);
         mostCouples(t, "cell 0 0;cell 2 0;cell 1 1;", 0);
+        mostCouples(t, "cell 0 0;row 3 0 2;", 1);
+        mostCouples(t, "cell 0 0;cell 2 0;cell 4 0;pile 0 3 2;pile 7 6 2;", 2);
         mostCouples(t, "cell 7 0;cell 0 1;", 0);
         mostCouples(t, "row 0 0 3;", 1);
         // A cross: all couples have the middle in common.
@@ -115,6 +117,21 @@ final class SearchEdges {
         t.due("2", 0, t.x.parting(5, 2));
         t.due("0", 0, t.x.parting(5, 0));
         t.due("12", 0, t.x.parting(5, 12));
+    }
+
+    private static void oneQuestionAfterAnother() {
+        Talk t = Edge.of(21, ASK_PARTING);
+        t.told(0, "row 0 0 6;", 6);
+        t.told(1, "row 0 0 8;row 0 1 8;row 0 2 8;", 24);
+        for (int i = 0; i < 2; i++) {
+            t.due("most of 6", 3, t.x.parting(0, NONE));
+            t.due("0 of 6", 1, t.x.parting(0, 0));
+            t.due("1 of 6", 0, t.x.parting(0, 1));
+            t.due("3 of 6", 1, t.x.parting(0, 3));
+            t.due("most of 24", 12, t.x.parting(1, NONE));
+            t.due("2 of 24", 0, t.x.parting(1, 2));
+            t.due("12 of 24", 1, t.x.parting(1, 12));
+        }
     }
 
     private static void partingOfNoCells() {
@@ -156,6 +173,7 @@ final class SearchEdges {
         t.due("most kept", 6, t.x.layings(0, 0, 1));
         t.due("the first", 0, t.x.layings(0, 0, 10));
         t.due("the last", 20, t.x.layings(0, 0, 16));
+        t.due("no more", NONE, t.x.layings(0, 0, 17));
         t.x.set(1, 24);
         t.due("all are good", 5040, t.x.layings(0, 0, 2));
         t.x.wall(1, 1);
@@ -494,6 +512,7 @@ final class SearchEdges {
         t.told(1, "row 0 0 8;row 0 1 8;row 0 2 6;", 22);
         t.x.wall(0, 0);
         t.x.fill(0, 0);
+        t.due("none is broken", 0, t.x.spares(0));
         t.x.set(45, 1);
         t.due("all bricks are in it", 0, t.x.spares(0));
         t.due("it stays", 5, t.x.at(0, 5));
@@ -686,6 +705,18 @@ final class SearchEdges {
         t.due("two of two", 2, t.x.older(0, 1, 1));
         // Of 0 1 2 after 0 1: without 2 both are good; without 0 or 1 the first is not good any more.
         t.due("three of three", 3, t.x.older(1, 0, 1));
+    }
+
+    private static void tellsOfTwentyFour() {
+        Talk t = Edge.of(Edge.TERMS, TELLS);
+        t.told(0, ROWS_24, 24);
+        t.x.wall(0, 0);
+        t.x.fill(0, 0);
+        // Without any of them, that one is bad in the whole wall.
+        t.due("all", 24, t.x.older(0, 0, 1));
+        t.x.set(1, 1);
+        t.due("one is borne", 0, t.x.older(0, 0, 1));
+        t.due("still there", 24, t.x.look(30));
     }
 
     private static void tellsOfEmptyWalls() {

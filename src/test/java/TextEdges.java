@@ -261,7 +261,11 @@ final class TextEdges {
         for (String condition : so) {
             holds(Edge.of(Edge.TERMS, sentence), condition, true);
         }
-        holds(Edge.of(Edge.TERMS, sentence), "not 1=2 and 1=2", false);
+        String[] not = {"not 1=2 and 1=2", "not 1=1", "not not not 2>1", "not(1<2)", "2<2", "2<1", "2>2", "1>2", "1=2", "(1=2)"};
+        for (String condition : not) {
+            holds(Edge.of(Edge.TERMS, sentence), condition, false);
+        }
+        holds(Edge.of(Edge.TERMS, sentence), "1<2 and 2>1 and 1=1 and not 1=2 and not not 1<2", true);
         Talk t = Edge.of(Edge.TERMS, sentence);
         t.faulty(6, "same when 1;", 1, 11);
         t.faulty(6, "same when 1=;", 1, 12);
@@ -320,6 +324,35 @@ final class TextEdges {
         t.faulty(6, "same when not1=1 andor 2=2;", 1, 17);
         t.told(0, "cell0 0;", 1);
         t.told(6, "same when not1=1and 2=2;", 1);
+        for (String word : new String[] {"cella", "cellz", "cellA", "cellZ", "acell", "Cell", "bell", "celk", "cel", "rows", "ow"}) {
+            t.faulty(0, word + " 0 0 1;", 1, 0);
+        }
+        for (String word : new String[] {"lame", "samd", "shiftt", "pair", "pairsx", "nix", "mixsame"}) {
+            t.faulty(6, word + ";", 1, 0);
+        }
+    }
+
+    /** What was cut off the tape stands there no more, also if it would go on with the last word. */
+    private static void lettersAndDigitsEndWithTheText() {
+        Talk t = Edge.of(Edge.TERMS, TOKENS);
+        t.feed("rowx");
+        t.x.end(3);
+        t.due("a word", NONE, t.x.text(0));
+        t.due("its fault", 1, t.x.fault(0));
+        t.due("is behind it", 3, t.x.fault(1));
+        t.feed("shift 12345");
+        t.x.end(10);
+        t.due("a number", NONE, t.x.text(6));
+        t.due("its fault", 1, t.x.fault(0));
+        t.due("is behind it", 10, t.x.fault(1));
+    }
+
+    private static void fourHundredTokens() {
+        Talk t = Edge.of(Edge.TERMS, TOKENS);
+        t.faulty(0, ";".repeat(400), 1, 0);
+        t.faulty(6, "+".repeat(400), 1, 0);
+        t.told(6, "mix when 1=" + "1+".repeat(193) + "1;", 1);
+        t.faulty(6, "mix when 1=" + "1+".repeat(194) + "1", 1, 400);
     }
 
     private static void keywordsOfTheOtherTexts() {
@@ -698,6 +731,18 @@ final class TextEdges {
             t.x.years(0, 0, 1);
             t.stands("back", 0, 7, 6, 5);
         }
+    }
+
+    private static void manyTextsOneAfterAnother() {
+        Talk t = Edge.of(5, TEXT);
+        String sum = "1+".repeat(150) + "1";
+        for (int i = 0; i < 10; i++) {
+            t.told(6 + i % 3, "same when 1=2;back when " + sum + "=151;", 2);
+        }
+        t.told(0, "row 0 0 3;", 3);
+        t.bricks(0, 0, 5, 6, 7);
+        t.x.years(0, 0, 1);
+        t.stands("the latest", 0, 7, 6, 5);
     }
 
     private static void noFaultAtFirst() {

@@ -155,6 +155,15 @@ final class WallEdges {
         }
     }
 
+    private static void theHighestRowIsNotBesideTheLowest() {
+        Talk t = Edge.of(Edge.TERMS, BESIDE);
+        t.told(0, "cell 0 0;cell 7 0;cell 0 7;cell 7 7;", 4);
+        t.bricks(0, 0, 1, 2, 3, 4);
+        for (int brick = 1; brick <= 4; brick++) {
+            t.due("beside " + brick, 0, t.x.beside(0, brick));
+        }
+    }
+
     private static void nobodyIsBesideInAnEmptyCell() {
         Talk t = Edge.of(Edge.TERMS, BESIDE);
         t.told(0, "row 0 0 3;", 3);
@@ -393,6 +402,19 @@ final class WallEdges {
         t.stands("a pile", 1, 0, 1, 2, 3);
     }
 
+    private static void snakeThroughFullRows() {
+        Talk t = Edge.of(Edge.TERMS, SNAKE);
+        t.told(0, "row 0 0 8;row 0 1 8;row 0 3 8;", 24);
+        t.x.wall(0, 0);
+        t.x.fill(0, 0);
+        t.x.again(0, 1, 0, 3, 0);
+        for (int x = 0; x < 8; x++) {
+            t.due("y 0, x " + x, x, t.x.at(1, x));
+            t.due("y 1, x " + x, 15 - x, t.x.at(1, 8 + x));
+            t.due("y 3, x " + x, 23 - x, t.x.at(1, 16 + x));
+        }
+    }
+
     private static void theFirstBricksAlone() {
         Talk t = rowOf(Edge.of(Edge.TERMS, FIRST_M), 6);
         t.told(1, "row 0 0 2;row 0 1 2;", 4);
@@ -414,6 +436,39 @@ final class WallEdges {
         t.told(1, "pile 0 0 2;pile 3 0 2;", 4);
         t.x.again(0, 1, 1, 4, 0);
         t.stands("above", 1, 0, 2, 1, 3);
+    }
+
+    private static void theRightOneIsInACoupleAlready() {
+        Talk t = rowOf(Edge.of(Edge.TERMS, PAIRS), 3);
+        // Cell 0 goes with cell 2 above it, so cell 1 to the left of that is single.
+        t.told(1, "cell 1 0;row 0 1 2;", 3);
+        t.x.again(0, 1, 1, 4, 0);
+        t.stands("single", 1, 0, 2, 1);
+        t.told(1, "pile 0 0 2;pile 2 0 2;pile 4 0 2;", 6);
+        t.bricks(2, 1, 0, 1, 2, 3, 4, 5);
+        t.told(1, "row 0 0 6;", 6);
+        t.x.again(2, 1, 1, 4, 0);
+        t.stands("three piles", 1, 0, 3, 1, 4, 2, 5);
+    }
+
+    private static void twelveCouplesAndSinglesOf24() {
+        Talk t = Edge.of(Edge.TERMS, PAIRS);
+        t.told(0, ROWS_24, 24);
+        t.told(1, "pile 0 0 8;pile 2 0 8;pile 4 0 8;", 24);
+        t.told(2, "row 0 0 7;row 0 1 7;row 0 3 7;row 0 5 3;", 24);
+        t.x.wall(0, 0);
+        t.x.fill(0, 0);
+        t.due("twelve", 0, t.x.again(0, 1, 1, 4, 0));
+        for (int i = 0; i < 12; i++) {
+            // Couples stand upright, three in every two rows.
+            int below = 6 * (i / 3) + i % 3;
+            t.due("below of couple " + i, 2 * i, t.x.at(1, below));
+            t.due("above of couple " + i, 2 * i + 1, t.x.at(1, below + 3));
+        }
+        t.due("with singles", 0, t.x.again(0, 1, 2, 4, 0));
+        // Cells 6 and 13 are a couple, 20 and 23 single.
+        int[] row = {0, 1, 2, 3, 4, 5, 6, 8, 9, 10, 11, 12, 13, 7, 14, 15, 16, 17, 18, 19, 22, 20, 21, 23};
+        t.stands("with singles", 1, row);
     }
 
     private static void singleCellsComeLast() {
@@ -515,6 +570,59 @@ final class WallEdges {
         // 2 has 0 beside it, like 1: none is bad as same, but more are kept by the same exchange.
         t.x.again(0, 1, 1, 5, 0);
         t.stands("as many bad, more kept", 1, 1, 0, 2);
+    }
+
+    /** As the sentence says it, by exchanges through lay and questions through good. */
+    private static void mendByHand() {
+        String[] shapes = {"row 0 0 5;row 0 1 5;", "pile 0 0 5;pile 1 0 5;", "row 0 0 8;row 3 1 4;", "row 0 1 3;pile 1 0 5;row 4 4 3;",
+            "row 0 0 3;row 0 2 3;row 5 5 3;cell 1 1;", "row 0 0 4;row 0 1 4;row 0 2 4;", "cell 0 0;row 2 0 5;pile 7 0 4;"};
+        Talk t = Edge.of(Edge.TERMS, MEND);
+        for (int i = 0; i < shapes.length * shapes.length; i++) {
+            t.due("shape", true, t.tell(0, shapes[i / shapes.length]) > 0);
+            t.due("shape", true, t.tell(1, shapes[i % shapes.length]) > 0);
+            t.x.set(0, i % 2);
+            for (int k = 0; k < 24; k++) {
+                t.x.set(10 + k, (k * k + i) % 4);
+            }
+            t.x.wall(0, 0);
+            t.x.fill(0, i % 10);
+            t.x.lay(0, i % 7, NONE);
+            t.x.state(i);
+            t.x.again(0, 0, 0, 6, 0);
+            t.x.again(0, 2, 1, 0, 0);
+            while (exchangeFirst(t)) {
+                t.due("cells", t.x.look(11), t.x.look(22));
+            }
+            t.x.again(0, 1, 1, 5, 0);
+            for (int cell = 0; cell < t.x.look(21); cell++) {
+                t.due("mend " + i + ", cell " + cell, t.x.at(2, cell), t.x.at(1, cell));
+            }
+        }
+    }
+
+    /** In wall 2, from wall 0. */
+    private static boolean exchangeFirst(Talk t) {
+        int bad = t.x.good(0, 2, 1);
+        int kept = t.x.good(0, 2, 2);
+        for (int i = 0; i < t.x.look(22); i++) {
+            for (int j = i + 1; j < t.x.look(22); j++) {
+                exchange(t, i, j);
+                int nowBad = t.x.good(0, 2, 1);
+                if (nowBad < bad || nowBad == bad && t.x.good(0, 2, 2) > kept) {
+                    return true;
+                }
+                exchange(t, i, j);
+            }
+        }
+        return false;
+    }
+
+    private static void exchange(Talk t, int i, int j) {
+        int first = t.x.at(2, i);
+        int second = t.x.at(2, j);
+        t.x.lay(2, i, NONE);
+        t.x.lay(2, j, first);
+        t.x.lay(2, i, second);
     }
 
     private static void mixOfOneCell() {

@@ -310,6 +310,18 @@ final class YearEdges {
         t.due("1 2", 0, t.x.two(1, 2, 2));
     }
 
+    private static void thoseAboveOneAnotherMeetToo() {
+        Talk t = Edge.of(Edge.TERMS, HAVE_MET);
+        t.told(0, "row 0 0 2;row 0 1 2;", 4);
+        t.x.wall(0, 0);
+        t.x.fill(0, 0);
+        t.x.years(0, 0, 1);
+        t.due("met", 4, t.x.met(0));
+        t.due("never", 2, t.x.met(1));
+        t.due("above", 0, t.x.two(1, 3, 0));
+        t.due("slanting", NONE, t.x.two(0, 3, 0));
+    }
+
     private static void onlyWall0Meets() {
         Talk t = row(Edge.of(Edge.TERMS, HAVE_MET), 3);
         t.bricks(1, 0, 10, 11, 12);
