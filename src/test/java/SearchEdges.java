@@ -134,6 +134,17 @@ final class SearchEdges {
         }
     }
 
+    private static void bothQuestionsOfOneShapeByTurns() {
+        Talk t = Edge.of(21, ASK_PARTING);
+        t.told(0, "row 0 0 6;", 6);
+        for (int i = 0; i < 3; i++) {
+            t.due("0 couples", 1, t.x.parting(0, 0));
+            t.due("most couples", 3, t.x.parting(0, NONE));
+            t.due("2 couples", 0, t.x.parting(0, 2));
+            t.due("most couples", 3, t.x.parting(0, NONE));
+        }
+    }
+
     private static void partingOfNoCells() {
         Talk t = Edge.full(21, PARTING_NONE);
         for (int c : new int[] {NONE, 0, 1, 12}) {

@@ -224,6 +224,7 @@ final class TextEdges {
         t.faulty(6, "shift when 1=1;", 1, 6);
         t.faulty(6, "shift -1;", 1, 6);
         t.faulty(6, "shift year;", 1, 6);
+        t.faulty(6, "shift;", 1, 5);
         for (String way : new String[] {"same", "back", "snake", "pairs", "mend", "mix"}) {
             t.faulty(6, way + " 1;", 1, way.length() + 1);
         }
@@ -455,7 +456,23 @@ final class TextEdges {
         t.faulty(0, "cell 0 0", 1, 8);
         t.faulty(0, "cell 0 0 \n ", 1, 11);
         t.faulty(0, "row", 1, 3);
+        t.faulty(0, "row 1", 1, 5);
+        t.faulty(0, "row 1 1", 1, 7);
+        t.faulty(0, "row 1 1 1", 1, 9);
         t.faulty(6, "same", 1, 4);
+        t.faulty(6, "shift", 1, 5);
+        t.faulty(6, "back;shift\n", 1, 11);
+        t.faulty(6, "shift 1", 1, 7);
+        t.faulty(6, "same when", 1, 9);
+        t.faulty(6, "same when not", 1, 13);
+        t.faulty(6, "same when year", 1, 14);
+        t.faulty(6, "same when year/", 1, 15);
+        t.faulty(6, "same when year/2*", 1, 17);
+        t.faulty(6, "same when year+", 1, 15);
+        t.faulty(6, "same when year<", 1, 15);
+        t.faulty(6, "same when year<1", 1, 16);
+        t.faulty(6, "same when year<1 and", 1, 20);
+        t.faulty(6, "same when year<1 or", 1, 19);
         t.faulty(6, "same when (1=1", 1, 14);
         t.faulty(6, "same" + " ".repeat(396), 1, 400);
     }

@@ -444,6 +444,11 @@ final class WallEdges {
         t.told(1, "cell 1 0;row 0 1 2;", 3);
         t.x.again(0, 1, 1, 4, 0);
         t.stands("single", 1, 0, 2, 1);
+        t.told(2, "row 0 0 4;", 4);
+        t.bricks(2, 2, 0, 1, 2, 3);
+        t.told(1, "cell 1 0;row 0 1 2;cell 5 5;", 4);
+        t.x.again(2, 1, 1, 4, 0);
+        t.stands("no second couple of cells", 1, 0, 2, 1, 3);
         t.told(1, "pile 0 0 2;pile 2 0 2;pile 4 0 2;", 6);
         t.bricks(2, 1, 0, 1, 2, 3, 4, 5);
         t.told(1, "row 0 0 6;", 6);
@@ -499,6 +504,16 @@ final class WallEdges {
         t.bricks(0, 0, 5, NONE, 7, NONE, 8, NONE);
         t.x.again(0, 1, 1, 4, 0);
         t.stands("no couples", 1, 5, 7, 8, NONE, NONE, NONE);
+    }
+
+    private static void theRightBrickIsInACoupleAlready() {
+        Talk t = Edge.of(Edge.TERMS, OLD_PAIRS);
+        t.told(0, "cell 1 0;row 0 1 2;", 3);
+        t.told(1, "row 0 0 4;", 4);
+        t.bricks(0, 0, 5, 6, 7);
+        // 5 goes with 7 above it, so 6 to the left of that is single.
+        t.x.again(0, 1, 1, 4, 0);
+        t.stands("no second couple of bricks", 1, 5, 7, 6, NONE);
     }
 
     private static void moreCouplesOfBricks() {

@@ -409,6 +409,20 @@ final class YearEdges {
         t.due("of 24", 276, t.x.met(1));
     }
 
+    private static void emptyCellsAreNoOneWhoNeverMet() {
+        Talk t = Edge.of(Edge.TERMS, MET);
+        t.told(0, "row 0 0 5;", 5);
+        t.bricks(0, 0, NONE, 4, NONE, 5, NONE);
+        t.due("one couple", 1, t.x.met(1));
+        t.x.years(0, 0, 1);
+        // As same 4 and 5 stand side by side.
+        t.due("none", 0, t.x.met(1));
+        t.bricks(0, 0, NONE, NONE, 4, NONE, 5);
+        t.due("none, apart again", 0, t.x.met(1));
+        t.bricks(0, 0, NONE, 6, 4, NONE, 5);
+        t.due("6 with both", 2, t.x.met(1));
+    }
+
     private static void alwaysWithoutYears() {
         Talk t = row(Edge.of(Edge.TERMS, MET), 3);
         t.due("no years", 0, t.x.met(2));
