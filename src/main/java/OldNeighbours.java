@@ -1221,8 +1221,9 @@ public final class OldNeighbours {
             return found;
         }
 
-        /** The least cell is coupled, if it can be: that never makes the most couples fewer. */
-        private int most(long rest, int depth) {
+        /** Who touches none is in no couple; the least of all others can be coupled without a loss. */
+        private int most(long all, int depth) {
+            long rest = all & Board.around(all);
             if (rest == 0 || depth > CELLS) {
                 return 0;
             }
@@ -1231,20 +1232,14 @@ public final class OldNeighbours {
                 return answers[known];
             }
             long cell = rest & -rest;
-            long right = rest & Board.rightOf(cell);
-            long above = rest & cell << 8;
-            int found = 0;
-            if (right == 0 && above == 0) {
-                found = most(rest & ~cell, depth + 1);
-            }
-            if (right != 0) {
-                found = 1 + most(rest & ~cell & ~right, depth + 1);
-            }
-            if (above != 0) {
-                found = Math.max(found, 1 + most(rest & ~cell & ~above, depth + 1));
-            }
+            int found = mostWith(rest, cell, Board.rightOf(cell), depth);
+            found = Math.max(found, mostWith(rest, cell, cell << 8, depth));
             keep(rest, found);
             return found;
+        }
+
+        private int mostWith(long rest, long cell, long other, int depth) {
+            return (rest & other) == 0 ? 0 : 1 + most(rest & ~cell & ~other, depth + 1);
         }
 
         private void keep(long rest, int found) {
@@ -1296,10 +1291,14 @@ public final class OldNeighbours {
         }
 
         private void layFrom(int cell, int used) {
-            if (cell >= bricks || cell >= fresh.cells) {
+            if (cell < bricks && cell < fresh.cells) {
+                layEach(cell, used);
+            } else {
                 note();
-                return;
             }
+        }
+
+        private void layEach(int cell, int used) {
             for (int i = 0; i < bricks; i++) {
                 if ((used >>> i & 1) == 0) {
                     fresh.bricks[cell] = row[i];
@@ -1746,7 +1745,7 @@ public final class OldNeighbours {
             draft.open(way, by);
             if (tokens.kind == Tokens.WHEN) {
                 tokens.next();
-                if (!readJoined(Tokens.OR, 0)) {
+                if (!readAny(0)) {
                     return false;
                 }
             }
@@ -1754,22 +1753,24 @@ public final class OldNeighbours {
             return accept(';');
         }
 
-        /** Joined by or: what is joined by and; joined by and: conditions. */
-        private boolean readJoined(int join, int open) {
-            for (int i = 0; i <= TAPE; i++) {
-                boolean read = join == Tokens.OR ? readJoined(Tokens.AND, open) : readCondition(open);
-                if (!read) {
-                    return false;
-                }
-                if (i > 0) {
-                    draft.write(-join);
-                }
-                if (tokens.kind != join) {
-                    return true;
-                }
+        private boolean readAny(int open) {
+            boolean read = readAll(open);
+            for (int i = 0; i < TAPE && read && tokens.kind == Tokens.OR; i++) {
                 tokens.next();
+                read = readAll(open);
+                draft.write(-Tokens.OR);
             }
-            return false;
+            return read;
+        }
+
+        private boolean readAll(int open) {
+            boolean read = readCondition(open);
+            for (int i = 0; i < TAPE && read && tokens.kind == Tokens.AND; i++) {
+                tokens.next();
+                read = readCondition(open);
+                draft.write(-Tokens.AND);
+            }
+            return read;
         }
 
         private boolean readCondition(int open) {
@@ -1797,7 +1798,7 @@ public final class OldNeighbours {
             }
             tokens.next();
             if (kind == '(') {
-                return readJoined(Tokens.OR, open + 1) && accept(')');
+                return readAny(open + 1) && accept(')');
             }
             if (!readCondition(open + 1)) {
                 return false;
